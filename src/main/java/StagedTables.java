@@ -617,29 +617,27 @@ public final class StagedTables {
         private static final int OUT_OF_REACH = 99;
 
         /** For each set of tables: how few stages can hold just these, their sizes together, what they may join. */
-        final int[] fewest = new int[TABLE_SETS];
+        final int[] stagesOf = new int[TABLE_SETS];
         final int[] sizes = new int[TABLE_SETS];
         final int[] mayJoin = new int[TABLE_SETS];
 
         int fewestStages(Packing packing, Program program) {
             int all = (1 << program.size) - 1;
-            measure(packing, program.size, all);
-            Arrays.fill(fewest, OUT_OF_REACH);
-            fewest[0] = 0;
+            measure(packing, program.size);
+            Arrays.fill(stagesOf, OUT_OF_REACH);
+            stagesOf[0] = 0;
             // A set is greater, as a number, than any part of it: so it is final when it is come to.
             for (int done = 0; done < all; done++) {
-                if (fewest[done] != OUT_OF_REACH) {
+                if (stagesOf[done] != OUT_OF_REACH) {
                     addStage(done, ready(done, packing, program.size), program.rules);
                 }
             }
-            return fewest[all];
+            return stagesOf[all];
         }
 
-        private void measure(Packing packing, int tables, int all) {
-            sizes[0] = 0;
-            mayJoin[0] = 0;
+        private void measure(Packing packing, int tables) {
             for (int t = 0; t < tables; t++) {
-                for (int set = 1 << t; set <= all && set < 2 << t; set++) {
+                for (int set = 1 << t; set < 2 << t; set++) {
                     int rest = set ^ 1 << t;
                     sizes[set] = sizes[rest] + packing.sizes[t];
                     mayJoin[set] = mayJoin[rest] | packing.mayJoin[t];
@@ -663,7 +661,7 @@ public final class StagedTables {
             for (int set = ready; set > 0; set = (set - 1) & ready) {
                 boolean fits = Integer.bitCount(set) <= rules[WIDE] && sizes[set] <= rules[ROOM];
                 if (fits && (mayJoin[set] & ~(done | set)) == 0) {
-                    fewest[done | set] = Math.min(fewest[done | set], fewest[done] + 1);
+                    stagesOf[done | set] = Math.min(stagesOf[done | set], stagesOf[done] + 1);
                 }
             }
         }

@@ -2,7 +2,7 @@ import java.util.Random;
 
 /** All promises: runs of calls by chance, each answer as the model's. */
 public final class AgainstModelTest {
-    private static final int RUNS = 1500;
+    private static final int RUNS = 4000;
     private static final int CALLS = 512;
     private static final int[] ODD = {-1, -2, 6, 7, 8, 9, 10, 256, 65536, -65536, Integer.MAX_VALUE, Integer.MIN_VALUE};
 

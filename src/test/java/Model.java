@@ -1,6 +1,7 @@
 import java.util.ArrayList;
 import java.util.Arrays;
 import java.util.List;
+import java.util.function.Predicate;
 
 /** The document once more, told as plainly as can be, and in other ways than in the class: packets go by stages. */
 final class Model {
@@ -10,13 +11,16 @@ final class Model {
         }
 
         boolean reads(int field) {
-            boolean theTarget = List.of(3, 4, 6, 7).contains(kind) && target == field;
-            boolean theOther = List.of(2, 4).contains(kind) && x == field;
-            return theTarget || theOther;
+            return switch (kind) {
+                case 2 -> x == field;
+                case 3, 6, 7 -> target == field;
+                case 4 -> x == field || target == field;
+                default -> false;
+            };
         }
 
         boolean has(int register) {
-            return List.of(5, 6, 7).contains(kind) && x == register;
+            return (kind == 5 || kind == 6 || kind == 7) && x == register;
         }
     }
 
@@ -36,23 +40,25 @@ final class Model {
             return t;
         }
 
-        List<Act> acts() {
-            List<Act> all = new ArrayList<>();
-            entries.forEach(e -> all.add(e.act()));
-            all.add(byDefault);
-            return all;
+        boolean any(Predicate<Act> what) {
+            for (Entry e : entries) {
+                if (what.test(e.act())) {
+                    return true;
+                }
+            }
+            return what.test(byDefault);
         }
 
         boolean writes(int field) {
-            return acts().stream().anyMatch(a -> a.writes(field));
+            return any(a -> a.writes(field));
         }
 
         boolean reads(int field) {
-            return key == field || acts().stream().anyMatch(a -> a.reads(field));
+            return key == field || any(a -> a.reads(field));
         }
 
         boolean has(int register) {
-            return acts().stream().anyMatch(a -> a.has(register));
+            return any(a -> a.has(register));
         }
     }
 
@@ -289,12 +295,22 @@ final class Model {
         return now.tables.get(table).entries.size() + 1;
     }
 
+    private int[][] allNeeds() {
+        int[][] needs = new int[now.tables.size()][now.tables.size()];
+        for (int later = 0; later < needs.length; later++) {
+            for (int earlier = 0; earlier < later; earlier++) {
+                needs[earlier][later] = need(earlier, later);
+            }
+        }
+        return needs;
+    }
+
     /** Whether a table may be put into a stage, those before it having their places. */
-    private boolean may(int table, int stage, int[] places) {
+    private boolean may(int table, int stage, int[] places, int[][] needs) {
         int many = 0;
         int size = size(table);
         for (int e = 0; e < table; e++) {
-            int need = need(e, table);
+            int need = needs[e][table];
             if (need >= 2 && stage <= places[e] || need == 1 && stage < places[e]) {
                 return false;
             }
@@ -308,9 +324,10 @@ final class Model {
 
     private int[] places() {
         int[] places = new int[now.tables.size()];
+        int[][] needs = allNeeds();
         for (int t = 0; t < places.length; t++) {
             int s = 0;
-            while (!may(t, s, places)) {
+            while (!may(t, s, places, needs)) {
                 s++;
             }
             if (s >= now.rules[2]) {
@@ -343,14 +360,14 @@ final class Model {
         return sum;
     }
 
-    private boolean canBePut(int table, int stages, int[] places) {
+    private boolean canBePut(int table, int stages, int[] places, int[][] needs) {
         if (table == places.length) {
             return true;
         }
         for (int s = 0; s < stages; s++) {
-            if (may(table, s, places)) {
+            if (may(table, s, places, needs)) {
                 places[table] = s;
-                if (canBePut(table + 1, stages, places)) {
+                if (canBePut(table + 1, stages, places, needs)) {
                     return true;
                 }
             }
@@ -360,7 +377,8 @@ final class Model {
 
     int fewest() {
         int stages = 0;
-        while (!canBePut(0, stages, new int[now.tables.size()])) {
+        int[][] needs = allNeeds();
+        while (!canBePut(0, stages, new int[now.tables.size()], needs)) {
             stages++;
         }
         return stages;

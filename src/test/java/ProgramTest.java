@@ -341,6 +341,12 @@ public final class ProgramTest {
         Due.is("8: the greatest level and one", x.told(4, 2), 3);
         x.rule(2, 1);
         Due.is("8: levels without stages", x.told(4, 2), 3);
+        x.otherwise(0, 0, 0, 0);
+        Due.is("8: levels go down", x.told(4, 2), 2);
+        x.drop(0);
+        Due.is("8: levels by other numbers", x.told(3, 2), 2);
+        x.drop(0);
+        Due.is("8: levels go down again", x.told(2, 2), 1);
     }
 
     private static void needs() {

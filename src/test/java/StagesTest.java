@@ -7,12 +7,14 @@ public final class StagesTest {
         noTables();
         needsPartStages();
         aNeedOfOneKeepsOrder();
+        everyNeedCounts();
         wideAndRoom();
         notPacked();
         eightStages();
         stageRefuses();
         fewestBeatsPacking();
         fewestKeepsNeeds();
+        fewestPutsTheFirstLast();
         fewestOfEight();
         Due.end();
     }
@@ -77,6 +79,29 @@ public final class StagesTest {
         packedAs("10: 2 needs 1 of 1, which is in stage 1", x, new int[] {0, 1, 1});
         x.rule(1, 1);
         packedAs("10: and it is full", x, new int[] {0, 1, 2});
+    }
+
+    private static void everyNeedCounts() {
+        StagedTables x = bare(0, 0, 0, 0);
+        x.rule(1, 4);
+        x.otherwise(0, 1, 1, 0);
+        x.otherwise(1, 1, 4, 0);
+        x.otherwise(2, 1, 5, 0);
+        packedAs("10: before there are needs", x, new int[] {0, 1, 0, 0});
+        x.otherwise(3, 4, 4, 5);
+        packedAs("10: 3 needs 2 of 1 and of 2", x, new int[] {0, 1, 0, 2});
+        Due.is("12: 3 needs 2 of 1 and of 2", x.fewest(), 3);
+        x.otherwise(1, 2, 4, 3);
+        x.otherwise(3, 0, 0, 0);
+        x.entry(3, 1, 1, 1, 0);
+        x.entry(3, 2, 1, 2, 0);
+        Due.is("10: needs(0, 3)", x.needs(0, 3), 2);
+        x.otherwise(0, 1, 1, 0);
+        packedAs("10: 3 needs 2 of 0, 1 of 1 and of 2", x, new int[] {0, 1, 0, 1});
+        x.drop(0);
+        x.table(5);
+        x.otherwise(3, 1, 1, 0);
+        packedAs("10: 3 needs 3 of the one that was 2", x, new int[] {0, 0, 0, 1});
     }
 
     private static void wideAndRoom() {
@@ -165,6 +190,20 @@ public final class StagesTest {
         Due.is("12: a need of 1 may be in one stage", x.fewest(), 3);
         x.otherwise(0, 0, 0, 0);
         Due.is("12: 1 needs nothing now", x.fewest(), 2);
+    }
+
+    private static void fewestPutsTheFirstLast() {
+        StagedTables x = bare(4, 4, 1);
+        x.otherwise(1, 1, 2, 0);
+        x.rule(0, 7);
+        packedAs("12: by rising numbers", x, new int[] {0, 1, 2});
+        Due.is("12: 0 and 2 behind 1", x.fewest(), 2);
+        StagedTables y = bare(4, 4, 1);
+        y.otherwise(1, 1, 2, 0);
+        y.otherwise(2, 1, 0, 0);
+        y.rule(0, 7);
+        Due.is("12: needs(0, 2)", y.needs(0, 2), 1);
+        Due.is("12: 0 and 2, which may join it, behind 1", y.fewest(), 2);
     }
 
     private static void fewestOfEight() {
