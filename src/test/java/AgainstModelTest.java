@@ -3,7 +3,8 @@ import java.util.Random;
 /** All promises: runs of calls by chance, each answer as the model's. */
 public final class AgainstModelTest {
     private static final int RUNS = 4000;
-    private static final int CALLS = 512;
+    /** With the two calls behind them 512: what later ones answer is free. */
+    private static final int CALLS = 510;
     private static final int[] ODD = {-1, -2, 6, 7, 8, 9, 10, 256, 65536, -65536, Integer.MAX_VALUE, Integer.MIN_VALUE};
 
     private final Random random;

@@ -23,6 +23,7 @@ public final class FaceTest {
         constants();
         methods();
         classes();
+        howMany();
         Due.end();
     }
 
@@ -70,5 +71,22 @@ public final class FaceTest {
                 Due.isTrue(c + "." + m.getName() + " has no public name", !METHODS.containsKey(m.getName()));
             }
         }
+    }
+
+    /** Rule 11 of LANGUAGE.md: at most some twelve classes, and some twenty fields in each beside its constants. */
+    private static void howMany() {
+        Due.isTrue("at most twelve classes", StagedTables.class.getDeclaredClasses().length < 12);
+        fewFields(StagedTables.class);
+        for (Class<?> c : StagedTables.class.getDeclaredClasses()) {
+            fewFields(c);
+        }
+    }
+
+    private static void fewFields(Class<?> c) {
+        int fields = 0;
+        for (Field f : c.getDeclaredFields()) {
+            fields += Modifier.isStatic(f.getModifiers()) ? 0 : 1;
+        }
+        Due.isTrue(c + " has at most twenty fields", fields <= 20);
     }
 }

@@ -3,7 +3,9 @@ import java.lang.management.ManagementFactory;
 /** A run of 512 calls keeps far below 600,000 objects and 7.3 million elements, whatever it calls. */
 public final class RoomTest {
     private static final int CALLS = 512;
-    private static final int ROUNDS = 200;
+    /** Once all calls are 81, so that an object that is warm has room for five times more below 512. */
+    private static final int WARM = 40;
+    private static final int ROUNDS = 5;
     /** A new object is the dearest call; 7.3 million elements in 512 calls leave some 14,000 for each. */
     private static final long MOST_BYTES_OF_A_NEW_OBJECT = 16_000;
 
@@ -17,8 +19,11 @@ public final class RoomTest {
     }
 
     public static void main(String[] args) {
-        StagedTables warm = new StagedTables();
-        callAll(warm);
+        StagedTables[] warm = new StagedTables[WARM];
+        for (int i = 0; i < WARM; i++) {
+            warm[i] = new StagedTables();
+            callAll(warm[i]);
+        }
         bytes();
 
         long before = bytes();
@@ -30,11 +35,11 @@ public final class RoomTest {
         Due.isTrue("a new object takes " + each + " bytes", each <= MOST_BYTES_OF_A_NEW_OBJECT);
 
         before = bytes();
-        for (int i = 0; i < ROUNDS; i++) {
-            callAll(warm);
+        for (int i = 0; i < WARM * ROUNDS; i++) {
+            callAll(warm[i % WARM]);
         }
         long more = bytes() - before;
-        Due.isTrue("calls on an object that has its images take " + more + " bytes", more < 10_000);
+        Due.isTrue("calls on objects that have their images take " + more + " bytes", more < 10_000);
         Due.end();
     }
 
